@@ -941,10 +941,8 @@ public final class PodcastEditor {
             return clips;
         }
 
-        /** Takes the frames out of all clips; the answer is how many they were. */
+        /** Takes the frames out, at whose ends the clips are divided; the answer is how many they were. */
         int takeFrames(int from, int to) {
-            divideAllAt(from);
-            divideAllAt(to);
             int frames = 0;
             for (int i = size - 1; i >= 0; i--) {
                 int start = get(i, START);
@@ -959,7 +957,6 @@ public final class PodcastEditor {
         }
 
         void giveFrames(int at, int length) {
-            divideAllAt(at);
             for (int i = 0; i < size; i++) {
                 if (get(i, START) >= at) {
                     put(i, START, get(i, START) + length);
@@ -1192,6 +1189,8 @@ public final class PodcastEditor {
                 return FULL;
             }
             chapters.takeFrames(from, to);
+            clips.divideAllAt(from);
+            clips.divideAllAt(to);
             return clips.takeFrames(from, to);
         }
 
@@ -1203,6 +1202,7 @@ public final class PodcastEditor {
                 return FULL;
             }
             chapters.giveFrames(at, length);
+            clips.divideAllAt(at);
             clips.giveFrames(at, length);
             return clips.size;
         }
