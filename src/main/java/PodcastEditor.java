@@ -1117,14 +1117,16 @@ public final class PodcastEditor {
         }
 
         boolean isAudible(int track) {
-            if (trackNumber(track, MUTED) == 1) {
-                return false;
+            return trackNumber(track, MUTED) == 0 && (trackNumber(track, SOLO) == 1 || !isAnySolo());
+        }
+
+        boolean isAnySolo() {
+            for (int track = 0; track < TRACKS; track++) {
+                if (trackNumber(track, SOLO) == 1) {
+                    return true;
+                }
             }
-            boolean anySolo = false;
-            for (int other = 0; other < TRACKS; other++) {
-                anySolo |= trackNumber(other, SOLO) == 1;
-            }
-            return !anySolo || trackNumber(track, SOLO) == 1;
+            return false;
         }
 
         int placeClip(int track, int start, int source, int offset, int length) {

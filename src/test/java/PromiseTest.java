@@ -176,6 +176,10 @@ public final class PromiseTest {
         due("seventh, wrong", x.addSource(0, 0, 0, 0), BAD);
         due("sources", x.count(0), 6);
         due("steps", x.count(4), 6);
+        PodcastEditor y = new PodcastEditor();
+        due("ramp to 0", y.addSource(1, 1, 0, 0), 0);
+        due("tone 0", y.addSource(0, 200, 0, 0), 1);
+        due("pulse 1", y.addSource(2, 1, 0, 1), 2);
     }
 
     private static void source() {
@@ -371,6 +375,19 @@ public final class PromiseTest {
         due("a track behind", x.addClip(3, 0, 0, 0, 1), 3);
         dueClip(x, 0, 0, 500, 0, 3, 7, 100, 0, 0);
         dueClip(x, 1, 2, 399, 0, 199, 1, 100, 0, 0);
+        x.setClip(0, 0, 5);
+        x.setClip(0, 1, 3);
+        x.setClip(0, 2, 4);
+        x.remove(0);
+        x.addClip(0, 500, 0, 3, 7);
+        dueClip(x, 0, 0, 500, 0, 3, 7, 100, 0, 0);
+        x.setClip(0, 0, 5);
+        x.setClip(0, 1, 3);
+        x.setClip(0, 2, 4);
+        x.addClip(0, 490, 0, 4, 7);
+        dueClip(x, 0, 0, 490, 0, 4, 7, 100, 0, 0);
+        x.remove(1);
+        x.moveClip(0, 0, 500);
         due("over the whole", x.addClip(2, 300, 0, 0, 200), OVERLAP);
         due("one frame", x.addClip(2, 398, 0, 0, 2), OVERLAP);
         due("just before", x.addClip(2, 397, 0, 0, 2), 1);
@@ -425,6 +442,22 @@ public final class PromiseTest {
         due("1 of 7", x.value(0, 5, 0), 128);
         x.setClip(0, 0, 33);
         due("297 by 1 of 7", x.value(0, 5, 0), 42);
+        x.setClip(0, 0, 100);
+        x.set(4, 2);
+        due("3 of 7", x.value(0, 3, 0), 0);
+        due("4 of 7", x.value(0, 2, 0), 900);
+        x.setClip(0, 2, 5);
+        due("3 of 6", x.value(0, 3, 0), 900);
+        due("2 of 6", x.value(0, 4, 0), 0);
+        PodcastEditor y = withRamp();
+        y.addClip(0, 0, 0, 0, 3);
+        y.addClip(0, 3, 0, 100, 3);
+        due("greatest of a silent one", y.clip(0, 8), 2);
+        y.setClip(0, 0, 0);
+        due("gain 0", y.clip(0, 8), 0);
+        y.setClip(1, 2, 3);
+        y.set(4, 0);
+        due("greatest at the first frame", y.clip(1, 8), 75);
     }
 
     private static void setClip() {
@@ -633,6 +666,18 @@ public final class PromiseTest {
         y.remove(5);
         due("23 clips", y.copyClip(3, 0, 10), 4);
         due("between its neighbours", y.clip(5, 1), 12);
+        PodcastEditor z = withRamp();
+        for (int i = 0; i < 4; i++) {
+            z.addClip(1, 100 + 10 * i, 0, 10 * i, 5);
+        }
+        due("the third one to the front", z.copyClip(2, 1, 0), 0);
+        dueClip(z, 0, 1, 0, 0, 20, 5);
+        due("the third one to the end", z.copyClip(2, 1, 200), 5);
+        dueClip(z, 5, 1, 200, 0, 10, 5);
+        due("the fourth one is moved to the front", z.moveClip(3, 0, 0), 0);
+        dueClip(z, 0, 0, 0, 0, 20, 5);
+        dueClip(z, 3, 1, 110, 0, 10, 5);
+        dueClip(z, 4, 1, 130, 0, 30, 5);
     }
 
     private static void clipAt() {
@@ -746,6 +791,17 @@ public final class PromiseTest {
         due("24 would be 25", z.cut(1, 3), FULL);
         due("one comes, one goes", z.cut(3, 7), 4 + 2);
         due("still 24", z.count(1), 23);
+        PodcastEditor v = withTone(100);
+        for (int track = 0; track < 4; track++) {
+            for (int i = 0; i < 6; i++) {
+                v.addClip(track, 10 * i, 0, 0, 10);
+            }
+        }
+        due("divided at both ends on all tracks", v.cut(5, 15), 40);
+        due("24 as before", v.count(1), 24);
+        dueClip(v, 23, 3, 40, 0, 0, 10);
+        dueClip(v, 19, 3, 5, 0, 5, 5);
+        dueClip(v, 18, 3, 0, 0, 0, 5);
         PodcastEditor w = crowded();
         w.moveClip(23, 1, 0);
         w.trim(23, 1, -19);
@@ -823,6 +879,15 @@ public final class PromiseTest {
         due("moved", y.clip(23, 1), 71);
         y.remove(0);
         due("one more of 23", y.insert(72, 1), 24);
+        PodcastEditor z = withTone(100);
+        z.addClip(0, 100, 0, 0, 10);
+        due("the first clip", z.insert(100, 10), 1);
+        dueClip(z, 0, 0, 110);
+        z.chapter(300, 1);
+        due("the first chapter behind 599", z.insert(200, 300), BAD);
+        PodcastEditor w = crowded();
+        w.trim(0, 1, -1);
+        due("the first of 24 is across", w.insert(1, 1), FULL);
     }
 
     private static void chapter() {
@@ -932,6 +997,7 @@ public final class PromiseTest {
         x.setTrack(0, 4, 0);
         due("threshold 0", x.value(0, 599, 3), 1);
         due("no clip", x.value(2, 0, 0) + x.value(2, 0, 1) + x.value(2, 0, 2) + x.value(2, 0, 3), 0);
+        due("the clip's value by its own frame", x.value(1, 43, 0), 153);
         due("clip's value at most 999", withLoud().value(0, 0, 0), 999);
         due("dry above 999", withLoud().value(0, 0, 1), 1998);
         due("track 4", x.value(4, 0, 0), NONE);
@@ -1002,6 +1068,29 @@ public final class PromiseTest {
         due("what -1", x.peak(-1), BAD);
         x.addClip(3, 599, 0, 0, 1);
         due("end at 600", x.peak(0), 600);
+        PodcastEditor y = withTone(333);
+        for (int track = 0; track < 3; track++) {
+            y.addClip(track, 0, 0, 0, 2);
+        }
+        due("999 is not over", y.peak(3), 0);
+        due("greatest at 0", y.peak(2), 0);
+        y.trim(2, 1, 1);
+        due("greatest at 0 alone", y.peak(1), 999);
+        due("sum with frame 0", y.peak(4), 999 + 666);
+        y.set(0, 200);
+        due("over at 0", y.peak(3), 2);
+        y.trim(2, 0, 0);
+        y.addSource(0, 5, 999, 0);
+        y.addClip(3, 1, 1, 0, 1);
+        y.set(0, 50);
+        due("greatest at 1", y.peak(2), 1);
+        due("greatest wet at 0", y.track(0, 11), 333);
+        y.moveClip(0, 0, 599);
+        due("greatest wet at 599", y.track(0, 11), 333);
+        y.moveClip(0, 0, 598);
+        y.trim(0, 1, 1);
+        y.moveClip(0, 0, 0);
+        due("greatest wet at 0 alone", y.track(0, 11), 333);
     }
 
     private static void level() {
@@ -1024,6 +1113,13 @@ public final class PromiseTest {
         x.set(1, 50);
         due("16 of 50", x.level(11), 3200);
         due("MAX", x.level(MAX), NONE);
+        x.set(1, 4);
+        due("window 4", x.level(146), 10000);
+        due("the last of 150", x.level(149), 10000);
+        due("behind 150", x.level(150), NONE);
+        due("150 windows", x.loudness(0), 150);
+        due("all but four are quiet", x.loudness(1), 146);
+        due("loudness by both ways", x.loudnessAgain(), x.loudness(4));
     }
 
     private static void loudness() {
@@ -1128,6 +1224,8 @@ public final class PromiseTest {
         x.set(2, 0);
         due("none", x.normalize(1), NOTHING);
         due("the master stays", x.count(8), 70);
+        due("1", x.normalize(4), 1);
+        due("the master is 1", x.count(8), 1);
     }
 
     private static void covered() {
@@ -1171,6 +1269,26 @@ public final class PromiseTest {
         due("10000, 10000, 0, 5000", y.loudnessAgain(), 25000 / 3);
         y.set(3, 61);
         due("5000 is low", y.loudnessAgain(), 10000);
+        y.set(1, 50);
+        due("one window", y.loudnessAgain(), 5000);
+        y.set(1, 4);
+        y.set(2, 100);
+        due("7 windows equal to the gate", y.loudnessAgain(), 10000);
+        PodcastEditor z = withTone(100);
+        z.addClip(0, 0, 0, 0, 10);
+        z.addClip(0, 10, 0, 0, 10);
+        z.setClip(1, 0, 50);
+        z.set(3, 40);
+        due("100 * 2500 is equal to 6250 * 40", z.loudnessAgain(), 6250);
+        z.set(3, 41);
+        due("but less than 6250 * 41", z.loudnessAgain(), 10000);
+        z.set(3, 0);
+        z.setClip(0, 0, 1);
+        z.setClip(1, 0, 2);
+        z.set(2, 0);
+        due("1 and 4", z.loudnessAgain(), 2);
+        due("1 and 4 by the first way", z.loudness(4), 2);
+        due("their mean", z.loudness(3), 2);
     }
 
     private static void silence() {
@@ -1293,6 +1411,16 @@ public final class PromiseTest {
         y.trim(23, 1, -2);
         due("25 clips", y.ifCut(70, 71, 2), FULL);
         due("25 clips, no what", y.ifCut(70, 71, 4), BAD);
+        PodcastEditor z = withTone(100);
+        z.addClip(0, 0, 0, 0, 10);
+        z.addClip(0, 10, 0, 0, 10);
+        z.setClip(0, 0, 50);
+        due("loudness before", z.loudness(4), 6250);
+        due("loudness after a cut", z.ifCut(0, 10, 1), 10000);
+        due("loudness as it was", z.loudness(4), 6250);
+        due("mix as it was", z.mix(0), 50);
+        due("a cut of nothing", z.ifCut(20, 600, 2), 2);
+        due("the end then", z.ifCut(20, 600, 0), 20);
     }
 
     private static void event() {
@@ -1651,6 +1779,42 @@ public final class PromiseTest {
         y.redo();
         due("mix", y.mix(5), 5);
         due("clip", y.clip(0, 4), 20);
+        PodcastEditor z = withRamp();
+        z.undo();
+        z.addSource(0, 3, 44, 0);
+        z.undo();
+        z.redo();
+        due("the later source", z.source(0, 0), 0);
+        due("its value", z.sourceValue(0, 2), 44);
+        z.undo();
+        z.addSource(0, 7, 55, 0);
+        z.addSource(0, 8, 66, 0);
+        z.undo();
+        z.undo();
+        z.redo();
+        due("its length", z.source(0, 1), 7);
+        z.redo();
+        due("the second one's value", z.sourceValue(1, 7), 66);
+        PodcastEditor w = new PodcastEditor();
+        for (int i = 1; i <= 40; i++) {
+            w.set(0, i);
+            if (i % 3 == 0) {
+                w.undo();
+                w.undo();
+                w.redo();
+                due("master", w.count(8), i - 1);
+                w.redo();
+                due("master again", w.count(8), i);
+            }
+        }
+        for (int i = 39; i >= 30; i--) {
+            w.undo();
+            due("master at last", w.count(8), i);
+        }
+        for (int i = 31; i <= 40; i++) {
+            w.redo();
+            due("master forward", w.count(8), i);
+        }
     }
 
     private static void save() {
@@ -1709,6 +1873,22 @@ public final class PromiseTest {
         x.set(0, 70);
         x.undo();
         due("undo to the restored", x.count(8), 50);
+        due("mix heard", x.mix(0), 50);
+        x.set(0, 80);
+        due("mix of 80", x.mix(0), 80);
+        x.restore();
+        due("mix of the restored", x.mix(0), 50);
+        x.setTrack(0, 0, 10);
+        due("mix of a tenth", x.mix(0), 5);
+        x.restore();
+        due("mix of the restored again", x.mix(0), 50);
+        PodcastEditor y = withTone(9);
+        y.save();
+        y.undo();
+        y.addSource(2, 5, 77, 5);
+        y.restore();
+        due("the saved source", y.source(0, 1), 200);
+        due("its value", y.sourceValue(0, 150), 9);
         x.begin();
         due("open", x.restore(), REFUSED);
     }
