@@ -310,6 +310,18 @@ public final class ClipPromisesTest extends Edges {
             due(5, x.addClip(3, 0, 0, 0, 1));
             due(0, tone(1).addClip(3, 599, 0, 199, 1));
         });
+        test("it has the gain 100 and no fades, also where one with others was before", () -> {
+            PodcastEditor x = one();
+            x.remove(0);
+            x.addClip(1, 50, 0, 7, 10);
+            dueClip(x, 0, 1, 50, 0, 7, 10, 100, 0, 0);
+            PodcastEditor y = one();
+            y.addClip(1, 50, 0, 7, 10);
+            dueClip(y, 0, 1, 50, 0, 7, 10, 100, 0, 0);
+            dueClip(y, 1, 1, 100, 0, 20, 10, 70, 3, 4);
+            y.addClip(3, 50, 0, 7, 10);
+            dueClip(y, 2, 3, 50, 0, 7, 10, 100, 0, 0);
+        });
         test("the start is 0 at least", () -> {
             due(0, tone(1).addClip(0, 0, 0, 0, 10));
             refuses(Edges::busy, BAD, x -> x.addClip(2, -1, 0, 0, 10), x -> x.addClip(2, MIN, 0, 0, 10));
@@ -458,6 +470,24 @@ public final class ClipPromisesTest extends Edges {
             due(0, x.moveClip(0, 1, 100));
             due(0, x.moveClip(0, 1, 91));
             due(0, x.moveClip(0, 1, 91));
+        });
+        test("it is the clip itself that moves, back or forward, by a little or past others, and the others stay", () -> {
+            PodcastEditor x = ramp();
+            for (int i = 0; i < 4; i++) {
+                x.addClip(1, 100 + 20 * i, 0, 10 * i, 5);
+            }
+            due(3, x.moveClip(3, 1, 158));
+            dueClips(x, 1, 100, 0, 5, 1, 120, 10, 5, 1, 140, 20, 5, 1, 158, 30, 5);
+            due(3, x.moveClip(3, 1, 162));
+            dueClips(x, 1, 100, 0, 5, 1, 120, 10, 5, 1, 140, 20, 5, 1, 162, 30, 5);
+            due(0, x.moveClip(3, 1, 0));
+            dueClips(x, 1, 0, 30, 5, 1, 100, 0, 5, 1, 120, 10, 5, 1, 140, 20, 5);
+            due(2, x.moveClip(1, 1, 130));
+            dueClips(x, 1, 0, 30, 5, 1, 120, 10, 5, 1, 130, 0, 5, 1, 140, 20, 5);
+            due(3, x.moveClip(0, 2, 7));
+            dueClips(x, 1, 120, 10, 5, 1, 130, 0, 5, 1, 140, 20, 5, 2, 7, 30, 5);
+            due(0, x.moveClip(2, 0, 599 - 4));
+            dueClips(x, 0, 595, 20, 5, 1, 120, 10, 5, 1, 130, 0, 5, 2, 7, 30, 5);
         });
         test("it keeps its source, offset, length, gain and fades", () -> {
             PodcastEditor x = one();
@@ -635,6 +665,18 @@ public final class ClipPromisesTest extends Edges {
             dueClips(x, 0, 0, 0, 2, 0, 3, 0, 2);
             x.remove(0);
             dueClips(x, 0, 3, 0, 2);
+        });
+        test("nothing of a removed clip stays, also of the last one", () -> {
+            PodcastEditor x = one();
+            x.remove(0);
+            due(NOTHING, x.clipAt(1, 100));
+            due(0, x.covered(1) + x.track(1, 8) + x.track(1, 9) + x.peak(0) + x.value(1, 105, 0) + x.source(0, 4));
+            due(100, x.room(1, 100, 500));
+            due(0, x.count(3));
+            PodcastEditor y = crowd(23);
+            y.addClip(3, 0, 0, 0, 10);
+            y.remove(23);
+            due(24, y.insert(1, 1));
         });
         test("NONE if there is no such clip", () -> {
             refuses(Edges::busy, NONE, x -> x.remove(-1), x -> x.remove(4), x -> x.remove(MIN), x -> x.remove(MAX));

@@ -167,6 +167,20 @@ public final class RipplePromisesTest extends Edges {
 
     private static void insertErrors() {
         part("Promise 20, insert");
+        test("all 12 chapters go back, and all 24 clips", () -> {
+            PodcastEditor x = crowd(24);
+            for (int i = 0; i < 12; i++) {
+                x.chapter(6 * i, i);
+            }
+            due(24, x.insert(0, 529));
+            for (int i = 0; i < 12; i++) {
+                due(529 + 6 * i, x.ofChapter(i, 0));
+            }
+            for (int i = 0; i < 24; i++) {
+                due(529 + 3 * i, x.clip(i, 1));
+            }
+            due(600, x.peak(0));
+        });
         test("BAD comes before FULL", () -> refuses(() -> crowd(24), BAD, x -> x.insert(1, 0), x -> x.insert(1, 530), x -> x.insert(1, 601)));
         test("BAD for a chapter comes before FULL", () -> refuses(() -> {
             PodcastEditor x = crowd(24);

@@ -876,6 +876,15 @@ public final class SoundPartsTest extends Edges {
             due(10000, x.loudness(4));
             due(10000, x.loudnessAgain());
         });
+        test("a window at the gate itself can be low", () -> {
+            PodcastEditor x = heard(100, 0, 10);
+            x.addClip(0, 10, 0, 0, 10);
+            x.setClip(1, 0, 10);
+            due(0, x.loudness(1));
+            due(1, x.loudness(2));
+            due(10000, x.loudness(4));
+            due(10000, x.loudnessAgain());
+        });
         test("a quiet window is not low as well", () -> {
             PodcastEditor x = twoLevels();
             x.addClip(0, 30, 0, 0, 10);

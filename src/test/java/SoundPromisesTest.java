@@ -149,6 +149,10 @@ public final class SoundPromisesTest extends Edges {
             x.addClip(2, 54, 0, 0, 1);
             due(54, x.peak(2));
         });
+        test("the first frame is 1, or 598", () -> {
+            due(1, heard(7, 1, 5).peak(2));
+            due(598, heard(7, 598, 2).peak(2));
+        });
         test("the first frame is 0 where all is silent", () -> {
             due(0, heard(0, 300, 5).peak(2));
             PodcastEditor x = heard(9, 300, 5);
@@ -372,6 +376,35 @@ public final class SoundPromisesTest extends Edges {
             due(33600 / 4, x.loudnessAgain());
             due(33600 / 4, x.loudness(4));
         });
+        test("asked again behind a change it has nothing of before", () -> {
+            PodcastEditor x = heard(100, 0, 10);
+            x.set(2, 0);
+            due(10000, x.loudnessAgain());
+            x.setClip(0, 0, 50);
+            due(2500, x.loudnessAgain());
+            due(2500, x.loudnessAgain());
+            x.setClip(0, 0, 0);
+            due(0, x.loudnessAgain());
+        });
+        test("150 different levels, all of them quiet, and none", () -> {
+            PodcastEditor x = empty();
+            for (int i = 0; i < 3; i++) {
+                x.addSource(1, 200, 300 * i, 300 * i + 300);
+                x.addClip(0, 200 * i, i, 0, 200);
+            }
+            x.set(1, 4);
+            x.set(2, 999);
+            due(150, x.loudness(1));
+            due(0, x.loudnessAgain());
+            x.set(2, 0);
+            due(0, x.loudness(1));
+            due(x.loudness(4), x.loudnessAgain());
+            x.set(3, 100);
+            due(x.loudness(4), x.loudnessAgain());
+            for (int window = 1; window < 150; window++) {
+                due(1, x.level(window) > x.level(window - 1) ? 1 : 0);
+            }
+        });
         test("levels come in any order: ascending, descending, mixed", () -> {
             PodcastEditor x = empty();
             x.addSource(1, 200, 0, 999);
@@ -545,6 +578,14 @@ public final class SoundPromisesTest extends Edges {
                 due(y.count(1), x.ifCut(from, to, 2));
                 due(y.count(2), x.ifCut(from, to, 3));
             }
+        });
+        test("it is the loudness then also if that of now was asked before", () -> {
+            PodcastEditor x = heardBefore();
+            due(10000, x.ifCut(0, 10, 1));
+            due(6250, x.loudness(4));
+            due(2500, x.ifCut(10, 20, 1));
+            due(50, x.mix(0));
+            due(100, x.mix(10));
         });
         test("all are 0 if all is cut, but a chapter stays", () -> {
             int[] numbers = {0, 0, 0, 1};

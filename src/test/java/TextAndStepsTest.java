@@ -171,6 +171,17 @@ public final class TextAndStepsTest extends Edges {
             dueFault(59, most + "-");
             refuses(Edges::idle, REFUSED, x -> executeAgain(x, most + "0"));
         });
+        test("a wrong text leaves nothing for the next one, whatever it was", () -> {
+            String[] wrong = {"c1=", "c", "d0;c1=", "c1=1;c2=;d0", "x1-2;i3", ";", "d0;"};
+            for (String text : wrong) {
+                PodcastEditor x = crowd(3);
+                run(x, text);
+                due(1, run(x, "d0"));
+                run(x, text);
+                due(2, run(x, "d0;d0"));
+                due(0, x.count(1));
+            }
+        });
         test("the first fault counts, also if there are more", () -> dueFault(1, "cc=="));
         test("a text that is wrong at its end carries out nothing before it", () -> {
             PodcastEditor x = one();
@@ -583,6 +594,21 @@ public final class TextAndStepsTest extends Edges {
             x.restore();
             due(1, x.count(0));
             due(5, x.source(0, 2));
+            x.addSource(0, 1, 9, 0);
+            due(9, x.source(1, 2));
+        });
+        test("the snapshot contains the sources as they were, also if others came in their place", () -> {
+            PodcastEditor x = tone(5);
+            x.save();
+            x.undo();
+            x.addSource(1, 30, 7, 8);
+            due(7, x.sourceValue(0, 0));
+            x.restore();
+            int[] numbers = {0, 200, 5, 0};
+            for (int what = 0; what < 4; what++) {
+                due(numbers[what], x.source(0, what));
+            }
+            due(5, x.sourceValue(0, 199));
         });
         test("the snapshot contains the clips", () -> {
             PodcastEditor x = one();
