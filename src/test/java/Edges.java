@@ -130,20 +130,25 @@ abstract class Edges {
         for (int what = 0; what < 13; what++) {
             all.add(x.count(what));
         }
-        for (int i = 0; i < x.count(0) * 4; i++) {
+        int sources = all.get(0);
+        int clips = all.get(1);
+        int chapters = all.get(2);
+        for (int i = 0; i < sources * 4; i++) {
             all.add(x.source(i / 4, i % 4));
         }
         for (int i = 0; i < 28; i++) {
             all.add(x.track(i / 7, i % 7));
         }
-        for (int i = 0; i < x.count(1) * 8; i++) {
+        for (int i = 0; i < clips * 8; i++) {
             all.add(x.clip(i / 8, i % 8));
         }
-        for (int i = 0; i < x.count(2) * 2; i++) {
+        for (int i = 0; i < chapters * 2; i++) {
             all.add(x.ofChapter(i / 2, i % 2));
         }
-        for (int i = 0; i < 96 && x.written(i) >= 0; i++) {
-            all.add(x.written(i));
+        int code = x.written(0);
+        for (int i = 1; i <= 96 && code >= 0; i++) {
+            all.add(code);
+            code = x.written(i);
         }
         all.add(x.peak(4));
         all.add(x.loudness(4));

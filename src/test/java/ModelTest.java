@@ -258,6 +258,9 @@ public final class ModelTest {
         }
 
         private String call(String method, int... a) {
+            if (calls == CALLS) {
+                return null;
+            }
             calls++;
             int got = Calls.onFast(fast, method, a);
             int due = Calls.onSlow(slow, method, a);

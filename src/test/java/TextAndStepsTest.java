@@ -201,8 +201,9 @@ public final class TextAndStepsTest extends Edges {
     private static void refusals() {
         part("Text");
         test("a command is refused if the method for it returns an error code, each of them", () -> {
-            String[] texts = {"d4", "x5-5", "i0+1", "s9@1", "s0@0", "m9@1", "m0@581", "m0@25", "c600=1", "c1=100", "i599+1"};
-            int[] codes = {NONE, BAD, BAD, NONE, BAD, NONE, BAD, OVERLAP, BAD, BAD, BAD};
+            String[] texts = {"d4", "x5-5", "i0+1", "s9@1", "s0@0", "m9@1", "m0@581", "m0@25", "c600=1", "c1=100", "i599+1",
+                "m4@0", "m999@0", "s999@1", "d999"};
+            int[] codes = {NONE, BAD, BAD, NONE, BAD, NONE, BAD, OVERLAP, BAD, BAD, BAD, NONE, NONE, NONE, NONE};
             for (int i = 0; i < texts.length; i++) {
                 PodcastEditor x = idle();
                 due(REFUSED, run(x, texts[i]));
