@@ -6,8 +6,10 @@ import java.lang.reflect.Modifier;
 import java.nio.file.Files;
 import java.nio.file.Path;
 import java.util.ArrayList;
+import java.util.HashMap;
 import java.util.HashSet;
 import java.util.List;
+import java.util.Map;
 import java.util.Set;
 import java.util.TreeSet;
 import java.util.regex.Matcher;
@@ -29,6 +31,7 @@ public final class LanguageTest {
         insideClasses();
         words(source);
         methods(source);
+        calls(source);
         arrays();
         System.out.println(wrong == 0 ? "the rules are kept" : wrong + " faults");
         if (wrong != 0) {
@@ -83,7 +86,7 @@ public final class LanguageTest {
             rule(Modifier.isStatic(c.getModifiers()) && Modifier.isPrivate(c.getModifiers()), c + " is not static");
             rule(c.getDeclaredFields().length <= 20, c + " has many fields");
             for (Method m : c.getDeclaredMethods()) {
-                rule(!(" " + FACE).contains(" " + m.getName() + m.getParameterCount()), m + " has a public namesake");
+                rule(!(" " + FACE).matches(".* " + m.getName() + "\\d.*"), m + " has a public namesake");
             }
         }
     }
@@ -113,8 +116,7 @@ public final class LanguageTest {
         String name = "";
         int lines = 0;
         for (String line : source.split("\n")) {
-            if (line.matches("\\s+(private |public |static |final )*[\\w\\[\\]]+ ?\\w*\\([^;]*\\) \\{")
-                && !line.matches("\\s+(\\} )?(else|for|if|while|switch)\\b.*")) {
+            if (isHead(line)) {
                 name = line.trim();
                 lines = 0;
                 rule(line.split(",").length <= 7, "many parameters: " + line.trim());
@@ -125,6 +127,50 @@ public final class LanguageTest {
             boolean made = line.trim().equals("states[i] = new Project();");
             rule(!line.contains("new ") || field || made, "makes an object: " + line.trim());
         }
+    }
+
+    private static boolean isHead(String line) {
+        return line.matches("\\s+(private |public |static |final )*[\\w\\[\\]]+ ?\\w*\\([^;]*\\) \\{")
+            && !line.matches("\\s+(\\} )?(else|for|if|while|switch)\\b.*");
+    }
+
+    /** Which methods a method calls, by their names alone: namesakes count together, so that no call is overlooked. */
+    private static void calls(String source) {
+        Map<String, Set<String>> calls = new HashMap<>();
+        String method = "";
+        for (String line : source.split("\n")) {
+            Matcher names = Pattern.compile("(\\w+)\\(").matcher(line);
+            if (isHead(line) && names.find()) {
+                method = names.group(1);
+                calls.computeIfAbsent(method, m -> new TreeSet<>());
+            }
+            while (names.find()) {
+                calls.computeIfAbsent(method, m -> new TreeSet<>()).add(names.group(1));
+            }
+        }
+        int deepest = 0;
+        for (String name : FACE.split(" ")) {
+            deepest = Math.max(deepest, depth(calls, name.replaceAll("\\d+$", ""), new ArrayList<>()));
+        }
+        System.out.println("calls go " + deepest + " deep");
+        rule(deepest >= 6 && deepest <= 8, "calls go " + deepest + " deep");
+    }
+
+    private static int depth(Map<String, Set<String>> calls, String name, List<String> open) {
+        if (!calls.containsKey(name)) {
+            return 0;
+        }
+        rule(!open.contains(name), "a method calls itself: " + open + " " + name);
+        if (open.contains(name)) {
+            return 0;
+        }
+        open.add(name);
+        int deepest = 0;
+        for (String other : calls.get(name)) {
+            deepest = Math.max(deepest, depth(calls, other, open));
+        }
+        open.remove(name);
+        return deepest + 1;
     }
 
     /** What one editor holds: 512 of them are to fit in one room. */
